@@ -1,0 +1,20 @@
+/** Runs every test of the project; ends with exit code 1 if one fails. */
+public final class AllTests {
+    public static void main(String[] args) {
+        FaceTests.all();
+        InputTests.all();
+        ChangeTests.all();
+        ItemTests.all();
+        PlanTests.all();
+        WhatIfTests.all();
+        ReportTests.all();
+        ModelTests.all();
+        System.out.println(Check.passed + " passed, " + Check.failed + " failed");
+        if (Check.failed > 0) {
+            System.exit(1);
+        }
+    }
+
+    private AllTests() {
+    }
+}
