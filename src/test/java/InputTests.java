@@ -160,6 +160,9 @@ final class InputTests {
         error("21 no disk", "item 1 1;", 1, 0);
         error("21 second disk", "disk 1; disk 2;", 1, 8);
         error("21 longer word", "disks 1;", 1, 0);
+        error("21 other first letter", "risk 1;", 1, 0);
+        error("21 other first letter of a command", "disk 1; item 1 1; tin 0;", 1, 18);
+        error("21 other last letter of a command", "disk 1; item 1 1; pit 0;", 1, 18);
         error("21 shorter word", "dis 1;", 1, 0);
         error("21 unknown word", "disk 1; items 1 1;", 1, 8);
         error("21 word begins alike", "disk 1; ite 1 1;", 1, 8);

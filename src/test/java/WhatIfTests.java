@@ -153,7 +153,20 @@ final class WhatIfTests {
         p.setCapacity(2);
         Check.that("55 no plan", p.backupsUntil(5), -1);
         Check.that("55 tenth", Check.planner("disk 5; item 5 100; item 5 11;").backupsUntil(1), 10);
+        lateBackups();
         Check.that("55 never", Check.planner("disk 5; item 5 100; item 5 10;").backupsUntil(1), -1);
+    }
+
+    private static void lateBackups() {
+        BackupPlanner p = Check.planner("disk 24; item 17 29; item 24 47; item 14 45; item 6 47; item 15 84; item 13 37; item 20 45; item 12 22;");
+        Check.that("55 fiftieth", p.backupsUntil(7), 50);
+        Check.that("56 not in 49", p.neglected(49) >> 7 & 1, 1);
+        Check.that("56 in 50", p.neglected(50) >> 7 & 1, 0);
+        Check.that("54 fiftieth", p.takenInBackup(50) >> 7 & 1, 1);
+        BackupPlanner later = Check.planner("disk 10; item 9 50; item 7 20; item 9 69; item 4 98; item 9 29; item 10 62; item 8 81; item 10 39;");
+        Check.that("55 fifty-first", later.backupsUntil(4), -1);
+        later.runBackup();
+        Check.that("55 fiftieth then", later.backupsUntil(4), 50);
     }
 
     private static void neglected() {
