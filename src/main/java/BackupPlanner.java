@@ -992,7 +992,7 @@ public final class BackupPlanner {
         }
 
         /** Runs commands up to the end of the text or, inside a repeat, up to its parenthesis. */
-        boolean runCommands(Disk disk, Table table, int level) {
+        private boolean runCommands(Disk disk, Table table, int level) {
             int end = level == 0 ? END : CLOSE;
             // Every command takes at least one byte of the text.
             for (int command = 0; command <= MAX_TEXT; command++) {

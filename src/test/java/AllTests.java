@@ -9,6 +9,15 @@ public final class AllTests {
         WhatIfTests.all();
         ReportTests.all();
         ModelTests.all();
+        TermsSentences.all();
+        ScriptSentences.all();
+        InputSentences.all();
+        ChangeSentences.all();
+        ItemSentences.all();
+        PlanSentences.all();
+        WhatIfSentences.all();
+        ReportSentences.all();
+        Sentences.complete();
         System.out.println(Check.passed + " passed, " + Check.failed + " failed");
         if (Check.failed > 0) {
             System.exit(1);

@@ -194,17 +194,27 @@ final class ChangeTests {
     private static void undo() {
         BackupPlanner p = new BackupPlanner();
         Check.that("17 nothing", p.undo(), -1);
-        String[] before = new String[11];
-        for (int i = 0; i < 11; i++) {
-            before[i] = Check.everything(p);
+        for (int i = 10; i >= 1; i--) {
+            BackupPlanner changed = changedTimes(11);
+            for (int left = 9; left >= i - 1; left--) {
+                Check.that("17 left " + left, changed.undo(), left);
+            }
+            Check.that("17 restored " + i, Check.everything(changed), Check.everything(changedTimes(i)));
+        }
+        BackupPlanner all = changedTimes(11);
+        for (int i = 10; i >= 1; i--) {
+            all.undo();
+        }
+        Check.that("17 no eleventh", all.undo(), -1);
+        Check.that("17 first change stays", Check.everything(all), Check.everything(changedTimes(1)));
+    }
+
+    private static BackupPlanner changedTimes(int changes) {
+        BackupPlanner p = new BackupPlanner();
+        for (int i = 0; i < changes; i++) {
             change(p, i);
         }
-        for (int i = 10; i >= 1; i--) {
-            Check.that("17 left " + i, p.undo(), i - 1);
-            Check.that("17 restored " + i, Check.everything(p), before[i]);
-        }
-        Check.that("17 no eleventh", p.undo(), -1);
-        Check.that("17 first change stays", Check.everything(p), before[1]);
+        return p;
     }
 
     private static void change(BackupPlanner p, int number) {

@@ -4,6 +4,8 @@ import java.nio.charset.StandardCharsets;
 final class Check {
     static int passed = 0;
     static int failed = 0;
+    // The name of the test that runs, in front of each of its checks.
+    static String test = "";
 
     interface Call {
         Object run();
@@ -14,7 +16,7 @@ final class Check {
             passed++;
         } else {
             failed++;
-            System.out.println("FAILED " + what + ": got " + got + ", due is " + want);
+            System.out.println("FAILED " + test + what + ": got " + got + ", due is " + want);
         }
     }
 
@@ -62,10 +64,25 @@ final class Check {
         return planner;
     }
 
+    /** A planner every part of which is in use: counters, undos, a snapshot, a script error, a report and an input. */
+    static BackupPlanner worn() {
+        BackupPlanner planner = new BackupPlanner();
+        planner.runBackup();
+        planner.saveSnapshot();
+        run(planner, "disk 20; item 61 1;");
+        planner.setSize(0, 8);
+        planner.setCapacity(30);
+        planner.writeRow(1);
+        feed(planner, "disk 7; item 1 1;");
+        return planner;
+    }
+
     static String report(BackupPlanner planner) {
         StringBuilder text = new StringBuilder();
-        for (int i = 0; planner.reportByte(i) != BackupPlanner.NONE; i++) {
-            text.append((char) planner.reportByte(i));
+        int sign = planner.reportByte(0);
+        while (sign != BackupPlanner.NONE) {
+            text.append((char) sign);
+            sign = planner.reportByte(text.length());
         }
         return text.toString();
     }
@@ -75,11 +92,32 @@ final class Check {
         StringBuilder text = new StringBuilder();
         text.append(p.capacity()).append(' ').append(p.backupCount()).append(' ').append(p.backedUpSize());
         text.append(' ').append(p.backedUpWeight()).append(':');
-        for (int i = 0; i < p.itemCount(); i++) {
+        int items = p.itemCount();
+        for (int i = 0; i < items; i++) {
             text.append(' ').append(p.size(i)).append(',').append(p.value(i)).append(',');
             text.append(p.age(i)).append(',').append(p.state(i));
         }
         return text.toString();
+    }
+
+    /** The report, what undo restores now and step by step, and the snapshot. Uses the planner up. */
+    static String restorable(BackupPlanner p) {
+        StringBuilder text = new StringBuilder();
+        text.append("report ").append(report(p)).append("\nundos ").append(p.undoCount()).append(", now ").append(everything(p));
+        while (p.undo() != BackupPlanner.NONE) {
+            text.append("\nundone ").append(everything(p));
+        }
+        text.append("\nsnapshot ").append(answer(p::restoreSnapshot)).append(", then ").append(everything(p));
+        return text.toString();
+    }
+
+    /** All that there is in a planner, the input and the script error too. Uses the planner up. */
+    static String whole(BackupPlanner p) {
+        StringBuilder text = new StringBuilder();
+        text.append("error ").append(p.scriptErrorKind()).append(" at ").append(p.scriptErrorOffset());
+        text.append("\ninput ").append(p.inputLength()).append('\n').append(restorable(p));
+        text.append("\nthe input runs ").append(p.runScript()).append(", then ").append(everything(p));
+        return text.append(", error at ").append(p.scriptErrorOffset()).toString();
     }
 
     private Check() {

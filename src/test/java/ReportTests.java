@@ -111,14 +111,6 @@ final class ReportTests {
         row("64 without a plan", p, 1, "0:0 7:30");
         row("64 no items", Check.planner("disk 5;"), 0, "0:0");
         row("64 column 100", Check.planner("disk 5; item 60 1; item 40 1;"), 2, "0:0 40:1 100:2");
-        BackupPlanner greatest = Check.planner("disk 0; item 1 1; item 2 2; item 4 4; item 8 8; item 16 16; item 32 32; item 60 60; backup 9;");
-        greatest.setValue(6, 999);
-        StringBuilder want = new StringBuilder();
-        for (int column = 0; column <= 100; column++) {
-            int weight = column < 60 ? 10 * column : 9990 + 10 * (column - 60);
-            want.append(column == 0 ? "" : " ").append(column).append(':').append(weight);
-        }
-        row("64 longest", greatest, 7, want.toString());
     }
 
     private static void reportByte() {
