@@ -152,12 +152,13 @@ abstract class Sentences {
         }
     }
 
-    /** Numbers on both sides of a range, at once behind it and far away, are refused. */
+    /** Numbers on both sides of a range are refused: those next to it, and if these are, those far away (which may take long). */
     static void refusesBeyond(int lowest, int highest, String exception, NumberCall call) {
         int[] numbers = {lowest - 1, highest + 1, -lowest - 2, lowest + 256, highest + 65536, Integer.MIN_VALUE, Integer.MIN_VALUE + highest,
             Integer.MAX_VALUE};
+        int failed = Check.failed;
         for (int number : numbers) {
-            if (number < lowest || number > highest) {
+            if (Check.failed == failed && (number < lowest || number > highest)) {
                 refused("number " + number, exception, Check::worn, p -> call.on(p, number));
             }
         }
