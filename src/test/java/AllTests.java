@@ -2,6 +2,8 @@
 public final class AllTests {
     public static void main(String[] args) {
         FaceTests.all();
+        LanguageTests.all();
+        ReadmeTests.all();
         InputTests.all();
         ChangeTests.all();
         ItemTests.all();

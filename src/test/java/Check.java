@@ -1,7 +1,11 @@
+import java.io.IOException;
 import java.nio.charset.StandardCharsets;
+import java.nio.file.Files;
+import java.nio.file.Path;
 
 /** Counts what the tests find, and helps them to feed scripts. */
 final class Check {
+    static final String PROJECT = System.getProperty("project", ".");
     static int passed = 0;
     static int failed = 0;
     // The name of the test that runs, in front of each of its checks.
@@ -26,6 +30,15 @@ final class Check {
             return String.valueOf(call.run());
         } catch (RuntimeException e) {
             return e.getClass().getName();
+        }
+    }
+
+    /** A file of the project as a text. */
+    static String text(String file) {
+        try {
+            return Files.readString(Path.of(PROJECT, file), StandardCharsets.UTF_8);
+        } catch (IOException e) {
+            throw new IllegalStateException(e);
         }
     }
 
